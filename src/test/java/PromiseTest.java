@@ -98,7 +98,7 @@ public final class PromiseTest {
     }
 
     private static void fill() {
-        HoleCounty x = Check.county("000000/030^000/000000/000000/000000/000009".replace("030^000", "03^0000"));
+        HoleCounty x = Check.county("000000/03^0000/000000/000000/000000/000009");
         for (int c : NO_CELL) {
             is("3 fill bad", x.fill(c), BAD);
         }
@@ -353,7 +353,7 @@ public final class PromiseTest {
     }
 
     private static void count() {
-        HoleCounty x = Check.county("100^000/000000/000000/000000/000000/000000".replace("100^000", "1^00000"));
+        HoleCounty x = Check.county("1^00000/000000/000000/000000/000000/000000");
         is("13 bad", x.count(-1), BAD);
         is("13 bad 7", x.count(7), BAD);
         for (int k = 0; k < 3; k++) {

@@ -9,7 +9,7 @@ public final class RoomTest {
         Check check = new Check();
         com.sun.management.ThreadMXBean meter = (com.sun.management.ThreadMXBean) ManagementFactory.getThreadMXBean();
         long self = Thread.currentThread().getId();
-        HoleCounty x = Check.county("101010/000^000/101010/000000/101000/000009".replace("000^000", "000000"));
+        HoleCounty x = Check.county("101010/000000/101010/000000/100000/000009");
         long sum = everyCall(x);
         long ahead = meter.getThreadAllocatedBytes(self);
         for (int k = 0; k < ROUNDS; k++) {

@@ -12,7 +12,7 @@ public final class RulesTest {
     private static final String[] FORBIDDEN = {
         "\\bthrow\\b", "\\btry\\b", "\\bcatch\\b", "\\bsynchronized\\b", "\\bassert\\b", "\\bimport\\b", "\\bpackage\\b", "->",
         "::", "\\bprotected\\b", "\\bdouble\\b", "\\bfloat\\b", "Exact\\b", "\\bThread\\b", "\\bRandom\\b", "currentTimeMillis",
-        "nanoTime", "\\bhashCode\\b", "\\btoString\\b", "static \\{", "\\bvar\\b", "\\bdo \\{"};
+        "nanoTime", "\\bhashCode\\b", "\\btoString\\b", "static \\{", "\\bvar\\b"};
     private static final Pattern LIBRARY = Pattern.compile("\\b(System|Math|Long|Integer|Arrays|String|List)\\.(\\w+)");
     private static final Set<String> ALLOWED = Set.of("System.arraycopy", "Math.max", "Math.min", "Math.abs", "Long.bitCount");
     private static final Pattern METHOD = Pattern.compile(
