@@ -679,14 +679,10 @@ public final class HoleCounty {
             long usable = ALL & ~open;
             int left = gapBetween(one, other, open, usable);
             for (int c = 0; c < LAND && left > 0; c++) {
-                long cell = 1L << c;
-                if ((usable & cell) == 0) {
-                    continue;
-                }
-                // a CELL once passed by never comes back: so the row is the first of the rising ones
-                usable &= ~cell;
-                if (gapBetween(one, other, open | chosen | cell, usable) < left) {
-                    chosen |= cell;
+                // what brings both nearer is on a shortest way: taken as they rise, they are the first row
+                long wider = open | chosen | 1L << c;
+                if (gapBetween(one, other, wider, usable) < left) {
+                    chosen |= 1L << c;
                     left--;
                 }
             }

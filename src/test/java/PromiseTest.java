@@ -165,6 +165,16 @@ public final class PromiseTest {
         is("5 first", y.undo(), 0);
         is("5 whole", y.count(6), 0);
         is("5 owner stays", y.told(8, 2), 2);
+        HoleCounty z = Check.county("000000/09^0000/000000/000000/000000/000008");
+        z.fill(7);
+        z.dig(35);
+        z.undo();
+        z.undo();
+        is("5 depth 9 is back", z.told(7, 0), 9);
+        is("5 its roof", z.told(7, 1), 1);
+        is("5 depth 8 is back", z.told(35, 0), 8);
+        z.roof(7);
+        is("5 it is a shaft again", z.hole(7, 1), 2);
     }
 
     private static void undoIsCleared() {
@@ -339,6 +349,9 @@ public final class PromiseTest {
         Check.typed(x, "d25");
         x.day();
         is("12 row first", x.told(17, 0), 1);
+        Check.typed(x, "r25;r25;d25;d25");
+        is("12 a roof taken off is no refusal", x.day(), 4);
+        is("12 dug behind it", x.told(17, 0), 3);
     }
 
     private static void dayFaults() {
@@ -429,6 +442,10 @@ public final class PromiseTest {
         x.own(8, 0);
         x.own(9, 0);
         is("14 cells of the hole do not count", x.hole(7, 5), 3);
+        x.own(20, 4);
+        x.own(3, 0);
+        x.own(6, 0);
+        is("14 owner 0", x.hole(7, 5), 0);
         is("14 largest", Check.county("111111/111111/111111/111111/111111/111111").hole(9, 7), 6);
         is("14 largest 5", Check.county("111111/111111/111111/111111/111110/111111").hole(9, 7), 5);
         is("14 largest 3", Check.county("000000/011100/011100/011100/000000/000000").hole(9, 7), 3);
@@ -444,6 +461,9 @@ public final class PromiseTest {
         HoleCounty y = Check.county("111110/100010/101010/100010/111110/000001");
         is("14 nested in one", y.hole(14, 6), 1);
         is("14 beside", y.hole(35, 6), 0);
+        HoleCounty z = Check.county("100000/011111/010001/010101/010001/011111");
+        is("14 nested in a later hole", z.hole(21, 6), 1);
+        is("14 a first hole beside", z.hole(0, 6), 0);
         is("14 a corner lets nothing through", Check.county("011110/100010/101010/100010/111110/000000").hole(14, 6), 1);
         is("14 a side does", Check.county("101110/100010/101010/100010/111110/000000").hole(14, 6), 0);
         is("14 the county's edge is no fence", Check.county("001000/110000/000000/000000/000000/000000").hole(2, 6), 0);
@@ -547,6 +567,13 @@ public final class PromiseTest {
         is("19 by no two, i", x.filled(3, 1), NONE);
         is("19 nothing is changed", x.count(1), 4);
         is("19 nor known", x.count(3), 0);
+        HoleCounty one = Check.county("200000/000000/000000/000000/000000/000000");
+        is("19 no tax at all", one.filled(0, -1), 1);
+        is("19 cell 0", one.filled(0, 0), 0);
+        HoleCounty ends = Check.county("200000/000000/000000/000000/000000/000002");
+        is("19 both corners", ends.filled(0, 0) * 100 + ends.filled(0, 1), 35);
+        HoleCounty last = Check.county("000000/000000/000000/000000/000000/000022");
+        is("19 the last two", last.filled(0, 0) * 100 + last.filled(0, 1), 3435);
         HoleCounty y = Check.county("000000/011000/000000/000190/000000/000000");
         is("19 tax with a shaft", y.count(2), 18);
         is("19 the shaft's cell", y.filled(6, 0), 22);
@@ -580,6 +607,10 @@ public final class PromiseTest {
         is("20 its second", all.split(20, 1), 6);
         HoleCounty thick = Check.county("000000/011100/011100/011100/000000/000000");
         is("20 of a square", thick.split(14, 0) * 100 + thick.split(14, 1), 813);
+        is("20 cell 0", Check.county("110000/100000/000000/000000/000000/000000").split(1, 0), 0);
+        is("20 cell 34", Check.county("000000/000000/000000/000000/000000/000111").split(33, 0), 34);
+        HoleCounty ring = Check.county(RING);
+        is("20 of a ring", ring.split(35, 0) * 100 + ring.split(35, 1), 2);
     }
 
     private static void dug() {
@@ -629,6 +660,9 @@ public final class PromiseTest {
         is("22 an absence to the edge", v.loophole(), 1);
         HoleCounty u = Check.county("000000/000000/001^000/000000/000000/000000");
         is("22 an absence undone", u.loophole(), 8);
+        is("22 cell 0", Check.county("01^0000/000000/000000/000000/000000/000000").loophole(), 0);
+        is("22 cell 0 is dug", Check.county("1^00000/000000/000000/000000/000000/000000").loophole(), 1);
+        is("22 a late cell", Check.county("000000/000000/000000/000000/000001^/00001^1^").loophole(), 23);
     }
 
     private static void roofs() {
@@ -694,6 +728,8 @@ public final class PromiseTest {
         x.dig(32);
         is("25 most cells", x.border(0), 30);
         is("25 its fence", x.border(1), 8);
+        HoleCounty corner = Check.county("100000/000000/000000/000000/000000/000000");
+        is("25 a corner", corner.border(0) * 10 + corner.border(1), 4);
         HoleCounty none = new HoleCounty();
         is("25 none", none.border(0), NONE);
         is("25 none 1", none.border(1), NONE);
@@ -714,6 +750,8 @@ public final class PromiseTest {
         is("26 none", y.cut(7), NONE);
         HoleCounty z = Check.county("000000/001100/011000/000000/000000/000000");
         is("26 the least", z.cut(8), 7);
+        is("26 cell 0", Check.county("010000/110000/000000/000000/000000/000000").cut(6), 0);
+        is("26 cell 35", Check.county("000000/000000/000000/000000/000011/000010").cut(28), 35);
         is("26 whole", Check.county("111111/111111/111111/111111/111111/111111").cut(0), NONE);
     }
 
@@ -742,6 +780,8 @@ public final class PromiseTest {
         is("27 no way, free", x.books(set, 3, -1, 3), NONE);
         is("27 no way, how many", x.books(set, 3, -1, 0), 0);
         is("27 no hole at all", x.books(set, 0, 0, 1), 0);
+        is("27 no hole, in one way", x.books(set, 0, -1, 0), 1);
+        is("27 no tax, in one way", x.books(set, -1, 0, 0), 1);
         is("27 six cells", x.books(Check.set(0, 2, 4, 24, 26, 35), -1, -1, 0), 64);
         is("27 nothing is changed", x.count(6), 2);
         HoleCounty deep = Check.county("000000/09^0900/000000/000000/000000/000000");
@@ -865,10 +905,30 @@ public final class PromiseTest {
         x.undo();
         is("31 the image is not touched", x.restore(), 1);
         is("31 roof again", x.told(7, 1), 1);
+        is("31 holes", x.count(0), 1);
+        x.fill(7);
+        x.dig(0);
+        x.dig(0);
+        x.restore();
+        is("31 no hole else", x.told(0, 3), NONE);
+        is("31 the hole", x.hole(7, 0), 1);
+        is("31 what was known", x.undo() * 10 + x.told(7, 1), 10);
+        x.restore();
         x.fill(7);
         is("30 a later image", x.image(), 1);
         x.restore();
         is("31 the later one", x.told(7, 0), 0);
+        HoleCounty deep = Check.county("000000/090000/000000/000000/000000/000000");
+        deep.image();
+        deep.fill(7);
+        deep.dig(7);
+        deep.restore();
+        is("31 a shaft again", deep.hole(7, 1), 2);
+        deep.fill(7);
+        deep.dig(7);
+        deep.image();
+        deep.restore();
+        is("31 no shaft", deep.hole(7, 1), 0);
     }
 
     // ---- promises 32 to 38
@@ -985,6 +1045,11 @@ public final class PromiseTest {
         is("34 a long is no cell", y.miscounted(0, 3, 0, 1), 0);
         is("34 a long is no number", y.miscounted(0, 3, 2, 1), 0);
         is("34 below 0", y.miscounted(0, 3, 4, 1), 0);
+        HoleCounty edges = laid(0, 0, 1, 35, 1, 36, 1);
+        edges.dig(0);
+        edges.dig(35);
+        is("34 cells 0 and 35", edges.miscounted(0, 0, 0, 2), NONE);
+        is("34 cell 36", edges.miscounted(0, 0, 0, 3), 2);
         HoleCounty z = new HoleCounty();
         z.sheet(1, 0, 24);
         is("34 twelve", z.miscounted(1, 0, 0, 12), 0);
@@ -1008,6 +1073,10 @@ public final class PromiseTest {
         is("35 a new row", x.sheet(3, 3, 36), 36);
         x.dig(0);
         is("35 of nothing", x.lay(0, 3, 3, 35, 1) + x.told(0, 0), 1);
+        x.item(3, 3, 0, 9);
+        x.sheet(3, 3, 36);
+        x.dig(0);
+        is("35 of nothing from its first on", x.lay(0, 3, 3, 0, 1) + x.told(0, 0), 1);
         is("35 of another lane", x.sheet(3, 0, 2), 2);
         is("35 the lane", x.item(3, 3, 0, 1), CAST);
         is("35 size leaves the old row", x.sheet(3, 1, -1) + x.item(3, 0, 1, 1), SIZE + 1);
