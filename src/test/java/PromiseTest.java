@@ -526,6 +526,9 @@ public final class PromiseTest {
         is("17 then", x.pays(2), 2 + 5);
         x.own(3, 1);
         is("17 cut twice", x.pays(1), 4);
+        HoleCounty corner = Check.county("100000/000000/000000/000000/000000/000000");
+        corner.own(1, 3);
+        is("17 of a corner", corner.pays(3), 1);
     }
 
     private static void worth() {
@@ -639,6 +642,9 @@ public final class PromiseTest {
             is("21 through another hole " + i, y.dug(0, 27, i), through[i]);
         }
         is("21 no sixth", y.dug(0, 27, 5), NONE);
+        is("21 cell 0", Check.county("010000/100000/000000/000000/000000/000000").dug(1, 6, 0), 0);
+        is("21 both are one, far apart", Check.county("111111/111111/111111/111111/111101/111110").dug(0, 29, -1), NOT);
+        is("21 around a corner", Check.county("000000/000000/000000/000000/000001/000010").dug(29, 34, 0), 28);
         HoleCounty ring = Check.county(RING);
         is("21 ring", ring.dug(14, 0, -1) * 100 + ring.dug(14, 0, 0), 108);
     }
