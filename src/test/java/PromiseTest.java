@@ -697,6 +697,10 @@ public final class PromiseTest {
         is("24 bad i 8", x.round(0, 8), BAD);
         is("24 no hole", x.round(35, -1), 0);
         is("24 no hole, i", x.round(35, 0), NONE);
+        x.dig(14);
+        is("24 one hole", x.round(35, -1), 6);
+        is("24 one hole, first", x.round(35, 0), 14);
+        is("24 one hole, no second", x.round(35, 1), NONE);
         HoleCounty y = Check.county("100000/000000/000000/000000/000000/100001");
         is("24 it stays where it is", y.round(30, -1), 5 + 10);
         is("24 like rows: the first", y.round(30, 0), 0);
@@ -736,6 +740,7 @@ public final class PromiseTest {
         is("25 its fence", x.border(1), 8);
         HoleCounty corner = Check.county("100000/000000/000000/000000/000000/000000");
         is("25 a corner", corner.border(0) * 10 + corner.border(1), 4);
+        is("25 single cells", Check.county("000000/010100/000000/000000/000000/000000").border(0), 7);
         HoleCounty none = new HoleCounty();
         is("25 none", none.border(0), NONE);
         is("25 none 1", none.border(1), NONE);
@@ -788,6 +793,7 @@ public final class PromiseTest {
         is("27 no hole at all", x.books(set, 0, 0, 1), 0);
         is("27 no hole, in one way", x.books(set, 0, -1, 0), 1);
         is("27 no tax, in one way", x.books(set, -1, 0, 0), 1);
+        is("27 cell 0 is free", x.books(Check.set(0), 2, -1, 3), Check.set(0));
         is("27 six cells", x.books(Check.set(0, 2, 4, 24, 26, 35), -1, -1, 0), 64);
         is("27 nothing is changed", x.count(6), 2);
         HoleCounty deep = Check.county("000000/09^0900/000000/000000/000000/000000");
@@ -1015,6 +1021,13 @@ public final class PromiseTest {
         is("33 ahead", z.told(12, 0), 0);
         is("33 first", z.told(13, 0), 9);
         is("33 second", z.told(14, 0), 4);
+        HoleCounty behind = Check.county("000000/010000/000000/000000/000000/000000");
+        behind.sheet(0, 1, 2);
+        behind.item(0, 1, 1, 7);
+        behind.film(0, 1, 0);
+        is("33 nothing behind the last hole", behind.lay(20, 0, 1, 0, 2), 2);
+        is("33 its tax", behind.told(20, 0), 2);
+        is("33 what stood behind stays", behind.told(21, 0), 7);
         // three cells of rate 86 are 258: its lowest byte is 2
         HoleCounty w = Check.county("000000/011100/000000/000000/000000/000000");
         w.rate(86);
