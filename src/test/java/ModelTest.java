@@ -2,8 +2,10 @@ import java.util.Random;
 
 /** Runs of calls by lot, each answered by the program and by the Model; all answers must be alike. */
 public final class ModelTest {
-    private static final int RUNS = 500;
+    private static final int RUNS = 800;
     private static final int CALLS = 512;
+    /** A step makes at most so many calls: the longest text, with blanks, and reading it. */
+    private static final int STEP = 180;
     private static final int[] ODD = {-1, -2, 36, 37, 10, 100, 160, Integer.MIN_VALUE, Integer.MAX_VALUE, Integer.MAX_VALUE - 1};
 
     private final Check check = new Check();
@@ -31,7 +33,7 @@ public final class ModelTest {
         if (lot.nextInt(8) > 0) {
             newGround();
         }
-        while (calls < CALLS - 170 && check.wrong() == 0) {
+        while (calls < CALLS - STEP && check.wrong() == 0) {
             any();
         }
     }
@@ -233,8 +235,8 @@ public final class ModelTest {
         }
     }
 
-    /** Letters are not counted as calls here: the 512 are a limit of use, and what comes behind them is free. */
     private void type(String text) {
+        calls += text.length();
         run.append('"').append(text).append("\" ");
         for (char letter : text.toCharArray()) {
             check.is("type", x.type(letter), m.type(letter));

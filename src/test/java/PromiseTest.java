@@ -845,9 +845,9 @@ public final class PromiseTest {
         }
         long draw = 77;
         x.seed(77);
-        for (int run = 0; run < 20; run++) {
+        for (int run = 0; run < 6; run++) {
             int due = 0;
-            for (int year = 0; year < 10 + run; year++) {
+            for (int year = 0; year < 60 + run; year++) {
                 draw = draw * 1103515245 + 12345 & 0x7FFFFFFFL;
                 int cell = (int) (draw / 65536 % 36);
                 draw = draw * 1103515245 + 12345 & 0x7FFFFFFFL;
@@ -860,7 +860,7 @@ public final class PromiseTest {
                     due++;
                 }
             }
-            is("28 lots", x.lots(10 + run), due);
+            is("28 lots", x.lots(60 + run), due);
             for (int c = 0; c < 36; c++) {
                 is("28 cell " + c, x.told(c, 0), depth[c]);
                 is("28 roofs go with what is filled", depth[c] == 0 ? x.told(c, 1) : 0, 0);
